@@ -1132,8 +1132,21 @@ public final class PairingHall {
             }
         }
 
+        private boolean isOutscored(Tournament it, int p) {
+            for (int i = 0; i < it.inCount; i++) {
+                if (scores[it.came[i]] > scores[p]) {
+                    return true;
+                }
+            }
+            return false;
+        }
+
+        /** Most ways end at the POINTS, so the SUMS are only told where these do not part. */
         boolean isFirst(Tournament it, int p, boolean alone) {
             score(it, LAST_DAY);
+            if (isOutscored(it, p)) {
+                return false;
+            }
             tally(it);
             for (int i = 0; i < it.inCount; i++) {
                 int q = it.came[i];
