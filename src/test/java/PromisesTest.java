@@ -118,6 +118,12 @@ public final class PromisesTest {
     due("nobody", x.seat(3, 0, NONE), 1);
     due("held", x.held(3, 0), NONE);
     due("held", x.held(3, 1), 2);
+    PairingHall y = new PairingHall();
+    for (int i = 0; i < 24; i++) y.player(i == 5 ? 0 : 3, 0);
+    for (int i = 23; i >= 0; i--) if (i != 5) { y.places(i, 4); y.seat(i, 0, 5); y.seat(i, 3, 5); }
+    for (int i = 0; i < 24; i++) if (i != 5) {
+      due("first of " + i, y.held(i, 0), 5); due("second of " + i, y.held(i, 1), NONE); due("last of " + i, y.held(i, 3), 5);
+    }
   }
 
   private static void p5() {
@@ -155,6 +161,9 @@ public final class PromisesTest {
     due("team", x.worth(3), (1225 + 1500 + 1000) / 3); traced(x, "team", 13, 12, 10, 11, 10);
     x.places(3, 4);
     for (int i = 0; i < 4; i++) x.seat(3, i, 2);
+    PairingHall y = new PairingHall();
+    y.player(3, 7); y.player(0, 0); y.player(0, 1); y.places(0, 2); y.seat(0, 0, 1); y.seat(0, 1, 2);
+    due("a worth of 0 is no refusal", y.worth(1), 0); due("cut to 0", y.worth(0), 0); traced(y, "all of them", 13, 10, 10);
     due("one four times", x.worth(3), 1225); traced(x, "one four times", 13, 12, 10, 12, 10, 12, 10, 12, 10);
   }
 
@@ -478,6 +487,7 @@ public final class PromisesTest {
     PairingHall x = members(1, 2);
     x.draw(0, 0);
     x.tell(0, 0, 0, 2, 0, 4);
+    due("t", x.takeBack(4, 0, 4), BAD); due("t", x.takeBack(-1, 0, 4), BAD);
     due("t", x.takeBack(1, 0, 4), BAD); due("entry", x.takeBack(0, 1, 4), BAD); due("entry", x.takeBack(0, -1, 4), BAD);
     due("day", x.takeBack(0, 0, -1), BAD); due("before known", x.takeBack(0, 0, 3), BAD);
     due("not yet", x.counts(0, 0, 0, 9), 0);
@@ -844,12 +854,32 @@ public final class PromisesTest {
     due("not taken back", x.counts(0, 0, 0, 9), 0);
     due("tries", x.told(10), 1);
     due("a new one", x.tournament(), 2); due("its serial", x.told(52), 4); due("it is new", x.told(22), 0); due("drawn none", x.told(32), 0);
+    runThatFailsInAFullHall();
     // a TOURNAMENT that a failed RUN filled is not seen in the next one of its number
     PairingHall y = members(1);
     y.step(0, 3, 0, 0, 0, 0); y.step(0, 4, 1, 0, 0, 0); y.step(0, 9, 7, 0, 0, 0);
     due("fails", y.run(0), FAILED); due("bad", y.ran(0), BAD); due("place", y.ran(2), 2);
     y.tournament();
     due("nobody is in", y.told(21), 0); due("he may", y.enter(1, 0), 1);
+    PairingHall z = members(1, 1);
+    z.step(0, 3, 0, 0, 0, 0); z.step(0, 4, 1, 1, 0, 0); z.step(0, 4, 1, 0, 0, 0); z.step(0, 6, 1, 5, 0, 0);
+    z.step(0, 7, 1, 0, 2, 5); z.step(0, 10, 1, 1, 5, 0); z.step(0, 10, 1, 0, 5, 3);
+    due("fails", z.run(0), FAILED); due("done", z.ran(3), 6); due("finding", z.finding(), SHORT);
+    z.tournament();
+    due("no rounds", z.told(31), 0); due("no entries", z.told(41), 0); due("enter", z.enter(1, 0), 1); z.enter(1, 1);
+    due("no day is before it", z.draw(1, 0), 1); due("nothing counts", z.counts(1, 0, 0, 9), NONE);
+  }
+
+  private static void runThatFailsInAFullHall() {
+    PairingHall x = members(1, 2, 3);
+    x.rule(0, 1, 2); x.rule(0, 4, 3);
+    x.copy(0); x.copy(0); x.copy(0);
+    for (int t = 0; t < 4; t++) { x.step(0, 6, t, 0, 0, 0); x.step(0, 5, t, t % 3, 0, 0); }
+    x.step(0, 3, 0, 0, 0, 0);
+    due("run", x.run(0), FAILED); due("full", x.ran(0), FULL); due("place", x.ran(2), 8);
+    for (int t = 0; t < 4; t++) { due("rounds of " + t, x.told(30 + t), 0); due("alike", x.alike(t, 0), 1); }
+    for (int t = 0; t < 4; t++) due("not withdrawn", x.withdraw(t, t % 3), 1);
+    due("no serial was given", x.told(2), 4); due("sums stay", x.rule(3, 4, 0), 3); due("sums stay", x.rule(0, 1, 0), 2);
   }
 
   private static void runsOfSixty() {
@@ -981,6 +1011,16 @@ public final class PromisesTest {
     x.draw(1, 0);
     due("cost", x.round(0, 0, 2), 0); due("cost", x.round(1, 0, 2), 100);
     due("cost alone", x.alike(0, 1), 0);
+    PairingHall y = new PairingHall();
+    y.player(0, 1000); y.player(0, 2000); y.player(3, 0); y.player(3, 0);
+    y.places(2, 1); y.places(3, 1);
+    y.tournament(); for (int p = 0; p < 4; p++) y.enter(0, p);
+    y.copy(0);
+    y.seat(2, 0, 0); y.seat(3, 0, 1); y.draw(0, 0);
+    y.seat(2, 0, 1); y.seat(3, 0, 0); y.draw(1, 0);
+    paired(y, "one way", 0, 0, 0, 2, 1, 3); paired(y, "another way", 1, 0, 0, 3, 1, 2);
+    due("cost", y.round(0, 0, 2), 0); due("cost", y.round(1, 0, 2), 0);
+    due("black ones alone", y.alike(0, 1), 0);
   }
 
   private static void p34() {
@@ -1008,6 +1048,39 @@ public final class PromisesTest {
     for (int[] w : want) due("told(" + w[0] + ")", x.told(w[0]), w[1]);
   }
 
+  /** Ten PLAYERS, six ROUNDS, sixty ENTRIES: every row is used up to its end. */
+  private static void fullHouse() {
+    PairingHall x = new PairingHall();
+    for (int p = 0; p < 24; p++) x.player(p % 3, 100 * p);
+    x.tournament();
+    for (int p = 14; p < 24; p++) x.enter(0, p);
+    for (int i = 1; i <= 4; i++) x.rule(0, i, i);
+    for (int r = 0; r < 6; r++) {
+      due("draw " + r, x.draw(0, r), 5);
+      due("trace " + r, x.told(3), 10 + 4);
+      for (int k = 0; k < 5; k++) x.tell(0, r, k, (r + k) % 3, r, r);
+    }
+    for (int i = 30; i < 60; i++) due("entry " + i, x.tell(0, 5, 4, 2, 5, 5), i);
+    int total = 0, seen = 0;
+    for (int k = 0; k < 10; k++) {
+      int p = x.standing(0, k, 5, 5);
+      total += x.points(0, p, 5, 5);
+      seen |= 1 << p;
+      due("place of " + p, x.place(0, p, 5, 5) <= k + 1 ? 1 : 0, 1);
+      for (int i = 1; i <= 5; i++) due("sum " + i + " of " + p, x.sum(0, p, i, 5, 5) >= 0 ? 1 : 0, 1);
+      if (k > 0) due("row at " + k, x.why(0, p, x.standing(0, k - 1, 5, 5), 5, 5) % 10 == 1 ? 1 : 0, 0);
+    }
+    due("two for each pair", total, 60); due("each once", seen, 0xFFC000);
+    int rated = 0;
+    for (int p = 14; p < 24; p++) rated += x.rated(0, p, 5, 5);
+    due("the mean stays near", Math.abs(rated / 10 - x.mean(0)) < 50 ? 1 : 0, 1);
+    x.rated(0, 14, 5, 5);
+    due("numbers of the trace", x.told(3), 14 + 6 * 14);
+    due("nothing is open", x.could(0, x.standing(0, 0, 5, 5), 0, 5), 1);
+    x.copy(0); x.copy(0); x.copy(0);
+    due("alike", x.alike(3, 0), 1);
+  }
+
   private static void face() {
     due("final", Modifier.isFinal(PairingHall.class.getModifiers()) ? 1 : 0, 1);
     due("constants", PairingHall.class.getFields().length, 6);
@@ -1028,6 +1101,7 @@ public final class PromisesTest {
         PromisesTest::p21, PromisesTest::p22, PromisesTest::p23, PromisesTest::p24, PromisesTest::p25, PromisesTest::p26, PromisesTest::p27,
         PromisesTest::p28, PromisesTest::p29, PromisesTest::p30, PromisesTest::p31, PromisesTest::p32, PromisesTest::p33, PromisesTest::p34,
         PromisesTest::p35};
+    fullHouse();
     for (Runnable one : all) {
       promise++;
       one.run();
