@@ -1,51 +1,7 @@
 import java.lang.reflect.Modifier;
 
 /** Each promise of the document by itself: ordinary numbers, the edges that it names, and wrong numbers. */
-public final class PromisesTest {
-  private static final int NONE = -1, BAD = -2, NO = -3, FULL = -4, FINDING = -5, FAILED = -6;
-  private static final int NOBODY = 1, BEYOND = 2, UNLIKE = 3, SHARED = 4, SIZE = 5, SHORT = 6;
-  private static final int MAX = 2147483647, MIN = -2147483648;
-  private static int wrong = 0;
-  private static int promise = 0;
-
-  private static void due(String what, int got, int want) {
-    if (got != want) {
-      wrong++;
-      System.out.println("promise " + promise + ": " + what + " is " + got + ", due is " + want);
-    }
-  }
-
-  private static void met(PairingHall x, String what, int got, int finding) {
-    due(what, got, FINDING);
-    due(what + ", finding()", x.finding(), finding);
-  }
-
-  private static void traced(PairingHall x, String what, int... numbers) {
-    due(what + ", numbers of the trace", x.told(3), numbers.length);
-    for (int i = 0; i < numbers.length; i++) due(what + ", trace(" + i + ")", x.trace(i), numbers[i]);
-    due(what + ", behind the trace", x.trace(numbers.length), NONE);
-  }
-
-  private static void paired(PairingHall x, String what, int t, int r, int... numbers) {
-    due(what + ", how many", x.round(t, r, 1), numbers.length / 2);
-    for (int i = 0; i < numbers.length; i++) due(what + ", pair " + i / 2 + " / " + i % 2, x.pair(t, r, i / 2, i % 2), numbers[i]);
-  }
-
-  /** MEMBERS of these BASES, all IN TOURNAMENT 0. */
-  private static PairingHall members(int... bases) {
-    PairingHall x = new PairingHall();
-    x.tournament();
-    for (int base : bases) x.enter(0, x.player(0, base));
-    return x;
-  }
-
-  /** 0 a MEMBER, 1 a GUEST, 2 a JUNIOR, 3 a TEAM, 4 a BYE. */
-  private static PairingHall kinds() {
-    PairingHall x = new PairingHall();
-    x.player(0, 1000); x.player(1, 1700); x.player(2, 1200); x.player(3, 9); x.player(4, 5);
-    return x;
-  }
-
+public final class PromisesTest extends Checks {
   private static void p1() {
     PairingHall x = new PairingHall();
     for (int i = 0; i <= 3; i++) due("told(" + i + ")", x.told(i), 0);
@@ -1094,6 +1050,7 @@ public final class PromisesTest {
   }
 
   public static void main(String[] args) {
+    says("the public face");
     face();
     Runnable[] all = {PromisesTest::p1, PromisesTest::p2, PromisesTest::p3, PromisesTest::p4, PromisesTest::p5, PromisesTest::p6,
         PromisesTest::p7, PromisesTest::p8, PromisesTest::p9, PromisesTest::p10, PromisesTest::p11, PromisesTest::p12, PromisesTest::p13,
@@ -1101,12 +1058,12 @@ public final class PromisesTest {
         PromisesTest::p21, PromisesTest::p22, PromisesTest::p23, PromisesTest::p24, PromisesTest::p25, PromisesTest::p26, PromisesTest::p27,
         PromisesTest::p28, PromisesTest::p29, PromisesTest::p30, PromisesTest::p31, PromisesTest::p32, PromisesTest::p33, PromisesTest::p34,
         PromisesTest::p35};
+    says("rows used up to their ends");
     fullHouse();
-    for (Runnable one : all) {
-      promise++;
-      one.run();
+    for (int i = 0; i < all.length; i++) {
+      says("promise " + (i + 1));
+      all[i].run();
     }
-    System.out.println(wrong == 0 ? "all promises are kept" : wrong + " answers are not as due");
-    if (wrong != 0) System.exit(1);
+    end();
   }
 }
