@@ -5,7 +5,8 @@ import java.util.List;
 
 /**
  * Long runs of calls, the same ones each time, on a PairingHall and on a NaiveHall: both must answer alike.
- * Behind every call the whole state that can be asked for cheaply is held against the other one, too.
+ * Behind every call the whole state that can be asked for cheaply is held against the other one, too; these questions
+ * are not counted among the 512 calls, as the program keeps no count of them.
  */
 public final class AgainstNaiveTest {
   private static final int CALLS = 512;
